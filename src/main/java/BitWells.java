@@ -802,7 +802,7 @@ public final class BitWells {
         return (states & goal) == 0 || (states & ~goal) == 0;
     }
 
-    /** The first bytes of the tape, read from the left: the word, number or sign that is next, up to the first fault. */
+    /** The first bytes of the tape, read from the left: the word, number or sign that is next, or the fault. */
     private static final class Text {
         private static final int END = 0;
         private static final int WORD = 1;
@@ -952,7 +952,8 @@ public final class BitWells {
             letters = MOST_LETTERS;
             frostFrom = NONE;
             frostTo = NONE;
-            countStates();
+            stateCount = 1 << MOST_LETTERS;
+            allStates = (1L << stateCount) - 1;
         }
 
         void clear() {
@@ -1492,15 +1493,6 @@ public final class BitWells {
             return phrases[slot] != null;
         }
 
-        boolean hasNone() {
-            for (int q = 0; q < QUESTIONS; q++) {
-                if (has(q)) {
-                    return false;
-                }
-            }
-            return true;
-        }
-
         boolean wasAsked(int well, int day) {
             for (int i = 0; i < answerCount; i++) {
                 if (answerWell[i] == well && answerDay[i] == day) {
@@ -1558,9 +1550,10 @@ public final class BitWells {
     private static final class Almanac {
         private final Land land;
         private final Book book;
+        /** By days and phrases, and the edition in which it was found. */
         private final long[] so;
         private final int[] soIn;
-        private final long[] lies;
+        private final long[] lieFound;
         private final int[] hushed;
         private final int[] openIn;
         /** What was found in an earlier edition holds no more. */
@@ -1572,7 +1565,7 @@ public final class BitWells {
             book = kept;
             so = new long[DAYS * PHRASES];
             soIn = new int[DAYS * PHRASES];
-            lies = new long[DAYS * MOST_WELLS];
+            lieFound = new long[DAYS * MOST_WELLS];
             hushed = new int[DAYS];
             openIn = new int[DAYS];
             edition = 1;
@@ -1598,14 +1591,14 @@ public final class BitWells {
         /** The states in which a well lies on a day. */
         long lieOn(int well, int day) {
             openDay(day);
-            return lies[day * MOST_WELLS + well];
+            return lieFound[day * MOST_WELLS + well];
         }
 
         private void openDay(int day) {
             if (openIn[day] != edition) {
                 hushed[day] = 0;
                 for (int well = 0; well < land.wellCount; well++) {
-                    lies[day * MOST_WELLS + well] = land.lieStates(well, day);
+                    lieFound[day * MOST_WELLS + well] = land.lieStates(well, day);
                     hushed[day] |= land.hushed(well, day) ? 1 << well : 0;
                 }
                 openIn[day] = edition;
@@ -1644,7 +1637,7 @@ public final class BitWells {
             if (well < 0 || well >= land.wellCount) {
                 return step == Phrase.NOT ? ~states : 0;
             }
-            return (hushed[day] >> well & 1) != 0 ? 0 : states ^ lies[day * MOST_WELLS + well];
+            return (hushed[day] >> well & 1) != 0 ? 0 : states ^ lieFound[day * MOST_WELLS + well];
         }
 
         boolean masters(int well, int slot) {
@@ -1701,10 +1694,13 @@ public final class BitWells {
         private final Almanac almanac;
         private int fewestLeft;
         private int bestAsking;
-        private int day;
         private long goal;
+        /** By wells: the questions, as bits, whose answers part what is left, each in a way of its own. */
+        private final int[] worth;
+        /** By wells and questions that are worth asking: the states that are left in which the well says yes. */
+        private final long[] yesLeft;
         private final int[] row;
-        /** Behind each well of a row: the sets of states alike so far by which the goal is not known yet. */
+        /** By how many of a row are asked: sets of states alike by these answers in which the goal is not known yet. */
         private final long[] mixed;
         private final int[] mixedCount;
         private final long[] apart;
@@ -1713,19 +1709,21 @@ public final class BitWells {
             land = country;
             book = kept;
             almanac = days;
+            worth = new int[MOST_WELLS];
+            yesLeft = new long[MOST_WELLS * QUESTIONS];
             row = new int[MOST_WELLS];
             mixed = new long[(MOST_WELLS + 1) * MOST_MIXED];
             mixedCount = new int[MOST_WELLS + 1];
             apart = new long[MOST_WELLS];
         }
 
-        void partBest(int asked, long left) {
+        void partBest(int day, long left) {
             fewestLeft = NONE;
             bestAsking = NONE;
             for (int well = 0; well < land.wellCount; well++) {
                 for (int q = 0; q < QUESTIONS; q++) {
                     if (book.has(q)) {
-                        int many = worstLeft(well, q, asked, left);
+                        int many = worstLeft(well, q, day, left);
                         if (fewestLeft == NONE || many < fewestLeft) {
                             fewestLeft = many;
                             bestAsking = 10 * well + q;
@@ -1735,20 +1733,20 @@ public final class BitWells {
             }
         }
 
-        private int worstLeft(int well, int q, int asked, long left) {
-            if (!almanac.answers(well, q, asked)) {
+        private int worstLeft(int well, int q, int day, long left) {
+            if (!almanac.answers(well, q, day)) {
                 return Long.bitCount(left);
             }
-            long yes = almanac.yesOn(well, q, asked);
+            long yes = almanac.yesOn(well, q, day);
             return Math.max(Long.bitCount(left & yes), Long.bitCount(left & ~yes));
         }
 
-        int firstTrick(int well, int asked, long left) {
-            long wanted = almanac.soOn(GOAL, asked);
+        int firstTrick(int well, int day, long left) {
+            long wanted = almanac.soOn(GOAL, day);
             for (int q = 0; q < QUESTIONS; q++) {
                 if (book.has(q)) {
                     // a well that doesn't answer leaves all states on one side
-                    long yes = almanac.answers(well, q, asked) ? almanac.yesOn(well, q, asked) : 0;
+                    long yes = almanac.answers(well, q, day) ? almanac.yesOn(well, q, day) : 0;
                     if (settled(left & yes, wanted) && settled(left & ~yes, wanted)) {
                         return q;
                     }
@@ -1757,44 +1755,74 @@ public final class BitWells {
             return NONE;
         }
 
+        /** Asks all wells all questions in mind. */
+        private void weighAskings(int day, long left) {
+            goal = almanac.soOn(GOAL, day);
+            for (int well = 0; well < land.wellCount; well++) {
+                worth[well] = 0;
+                for (int q = 0; q < QUESTIONS; q++) {
+                    if (book.has(q) && almanac.answers(well, q, day)) {
+                        long yes = almanac.yesOn(well, q, day) & left;
+                        if (yes != 0 && yes != left && partsAnew(well, yes, left)) {
+                            worth[well] |= 1 << q;
+                            yesLeft[well * QUESTIONS + q] = yes;
+                        }
+                    }
+                }
+            }
+        }
+
+        private boolean worthAsking(int well, int q) {
+            return (worth[well] >> q & 1) != 0;
+        }
+
+        private boolean partsAnew(int well, long yes, long left) {
+            for (int q = 0; q < QUESTIONS; q++) {
+                long unlike = yesLeft[well * QUESTIONS + q] ^ yes;
+                if (worthAsking(well, q) && (unlike == 0 || unlike == left)) {
+                    return false;
+                }
+            }
+            return true;
+        }
+
         /** How many; then the row has the questions. NONE: there is no such row. */
-        int fewestAskings(int asked, long left) {
-            day = asked;
-            goal = almanac.soOn(GOAL, asked);
+        int fewestAskings(int day, long left) {
             Arrays.fill(row, 0);
-            if (settled(left, goal)) {
+            if (settled(left, almanac.soOn(GOAL, day))) {
                 return 0;
             }
-            if (firstUntold(asked, left) != NONE) {
+            if (firstUntold(day, left) != NONE) {
                 return NONE;
             }
             mixed[0] = left;
             mixedCount[0] = 1;
             for (int many = 1; many <= land.wellCount; many++) {
-                if (fillRow(0, many)) {
+                if (fillRow(0, 0, many)) {
                     return many;
                 }
             }
             return NONE;
         }
 
-        /** Whether the wells from this one on can tell the rest by so many askings. */
-        private boolean fillRow(int well, int many) {
-            if (mixedCount[well] == 0) {
-                return true;
-            }
-            if (well >= land.wellCount || many <= 0) {
+        /**
+         * Whether the wells from this one on can tell the rest by so many askings more. Fewer are known not to do, so
+         * too few wells don't, and each asking has to part something.
+         */
+        private boolean fillRow(int well, int asked, int many) {
+            if (many <= 0 || land.wellCount - well < many) {
                 return false;
             }
-            keepMixed(well);
-            if (fillRow(well + 1, many)) {
+            if (many == 1) {
+                return fillLast(well, asked);
+            }
+            if (fillRow(well + 1, asked, many)) {
                 return true;
             }
             for (int q = 0; q < QUESTIONS; q++) {
-                // an asking that parts nothing can't be one of the fewest
-                if (book.has(q) && almanac.answers(well, q, day) && partMixed(well, almanac.yesOn(well, q, day))) {
+                if (worthAsking(well, q) && partMixed(asked, yesLeft[well * QUESTIONS + q])) {
                     row[well] = q + 1;
-                    if (fillRow(well + 1, many - 1)) {
+                    if (fillRow(well + 1, asked + 1, many - 1)) {
                         return true;
                     }
                 }
@@ -1803,30 +1831,47 @@ public final class BitWells {
             return false;
         }
 
-        private void keepMixed(int well) {
-            mixedCount[well + 1] = 0;
-            for (int i = 0; i < mixedCount[well]; i++) {
-                addMixed(well + 1, mixed[well * MOST_MIXED + i]);
+        /** The last well comes first, as a row that asks later ones is ahead. */
+        private boolean fillLast(int from, int asked) {
+            for (int well = land.wellCount - 1; well >= from; well--) {
+                for (int q = 0; q < QUESTIONS; q++) {
+                    if (worthAsking(well, q) && settlesMixed(asked, yesLeft[well * QUESTIONS + q])) {
+                        row[well] = q + 1;
+                        return true;
+                    }
+                }
             }
+            return false;
+        }
+
+        private boolean settlesMixed(int asked, long yes) {
+            for (int i = 0; i < mixedCount[asked]; i++) {
+                long states = mixed[asked * MOST_MIXED + i];
+                long unlike = (yes ^ goal) & states;
+                if (unlike != 0 && unlike != states) {
+                    return false;
+                }
+            }
+            return true;
         }
 
         /** Whether it parted any. */
-        private boolean partMixed(int well, long yes) {
+        private boolean partMixed(int asked, long yes) {
             boolean parted = false;
-            mixedCount[well + 1] = 0;
-            for (int i = 0; i < mixedCount[well]; i++) {
-                long states = mixed[well * MOST_MIXED + i];
-                parted |= (states & yes) != 0 && (states & ~yes) != 0;
-                addMixed(well + 1, states & yes);
-                addMixed(well + 1, states & ~yes);
+            mixedCount[asked + 1] = 0;
+            for (int i = 0; i < mixedCount[asked]; i++) {
+                long states = mixed[asked * MOST_MIXED + i];
+                parted = parted || (states & yes) != 0 && (states & ~yes) != 0;
+                addMixed(asked + 1, states & yes);
+                addMixed(asked + 1, states & ~yes);
             }
             return parted;
         }
 
-        private void addMixed(int well, long states) {
-            if (!settled(states, goal) && mixedCount[well] < MOST_MIXED) {
-                mixed[well * MOST_MIXED + mixedCount[well]] = states;
-                mixedCount[well]++;
+        private void addMixed(int asked, long states) {
+            if (!settled(states, goal) && mixedCount[asked] < MOST_MIXED) {
+                mixed[asked * MOST_MIXED + mixedCount[asked]] = states;
+                mixedCount[asked]++;
             }
         }
 
@@ -1839,12 +1884,12 @@ public final class BitWells {
         }
 
         /** Each well's states that it tells apart from one, by some question. */
-        private void tellApart(int state, int asked) {
+        private void tellApart(int state) {
             for (int well = 0; well < land.wellCount; well++) {
                 apart[well] = 0;
                 for (int q = 0; q < QUESTIONS; q++) {
-                    if (book.has(q) && almanac.answers(well, q, asked)) {
-                        long yes = almanac.yesOn(well, q, asked);
+                    if (worthAsking(well, q)) {
+                        long yes = yesLeft[well * QUESTIONS + q];
                         apart[well] |= holds(yes, state) ? ~yes : yes;
                     }
                 }
@@ -1856,13 +1901,13 @@ public final class BitWells {
         }
 
         /** The lesser state times 64, and the greater one. */
-        int firstUntold(int asked, long left) {
-            long wanted = almanac.soOn(GOAL, asked);
+        int firstUntold(int day, long left) {
+            weighAskings(day, left);
             for (int state = 0; state < MOST_STATES; state++) {
                 if (holds(left, state)) {
-                    tellApart(state, asked);
+                    tellApart(state);
                     // a lesser one would have been found from its own side
-                    long untold = unlike(state, left, wanted);
+                    long untold = unlike(state, left, goal);
                     for (int well = 0; well < land.wellCount; well++) {
                         untold &= ~apart[well];
                     }
@@ -1874,13 +1919,13 @@ public final class BitWells {
             return NONE;
         }
 
-        int spareWells(int asked, long left) {
-            long wanted = almanac.soOn(GOAL, asked);
+        int spareWells(int day, long left) {
+            weighAskings(day, left);
             int spare = (1 << land.wellCount) - 1;
             for (int state = 0; state < MOST_STATES; state++) {
                 if (holds(left, state)) {
-                    tellApart(state, asked);
-                    spare &= ~aloneNeeded(unlike(state, left, wanted));
+                    tellApart(state);
+                    spare &= ~aloneNeeded(unlike(state, left, goal));
                 }
             }
             return spare;
@@ -1899,8 +1944,8 @@ public final class BitWells {
             return needed;
         }
 
-        int fewestLetters(int asked, long left) {
-            long wanted = almanac.soOn(GOAL, asked);
+        int fewestLetters(int day, long left) {
+            long wanted = almanac.soOn(GOAL, day);
             for (int many = 0; many <= land.letters; many++) {
                 for (int bits = 0; bits < 1 << land.letters; bits++) {
                     if (Integer.bitCount(bits) == many && lettersDo(bits, left, wanted)) {
@@ -2005,7 +2050,7 @@ public final class BitWells {
                     // askings that part nothing only pass the day: the first of them stands for all
                     int last = parts || !blank ? dayBehind(well, day, rest, asked, least) : least;
                     last = parts && last < least ? Math.max(last, dayBehind(well, day, yes, asked, least)) : last;
-                    blank |= !parts;
+                    blank = blank || !parts;
                     if (last < least) {
                         least = last;
                         firstAsking = asked == 0 ? 10 * well + q : firstAsking;
