@@ -712,20 +712,22 @@ public final class BitWells {
     }
 
     public int image() {
-        if (imageCount >= MOST_IMAGES) {
+        Book image = imageCount < MOST_IMAGES ? images[imageCount] : null;
+        if (image == null) {
             return -1;
         }
-        images[imageCount].copyFrom(book);
+        image.copyFrom(book);
         imageCount++;
         return imageCount;
     }
 
     public int restore() {
-        if (imageCount <= 0) {
+        Book image = imageCount > 0 ? images[imageCount - 1] : null;
+        if (image == null) {
             return -1;
         }
+        book.copyFrom(image);
         imageCount--;
-        book.copyFrom(images[imageCount]);
         almanac.renew();
         return imageCount;
     }

@@ -220,6 +220,10 @@ public final class PromisesTest {
         due("the last frost counts", 1, () -> country(y, "place;well 0 a;frost 0 364;frost 3 4;"));
         so("frost", true, () -> y.silent(0, 3));
         so("frost that counts no more", false, () -> y.silent(0, 5));
+        due("the last days", 2, () -> country(y, "place;well 0 a;well 0 a;dry 0 364 364;vein 0 1 364 364;frost 364 364;"));
+        so("frost on the last", true, () -> y.silent(1, 364));
+        so("a vein on the last", true, () -> y.lies(0, 364, 0));
+        due("H 1 to 9, D to 30", 1, () -> country(y, "place;place;road 0 1 9;road 0 1 1;well 0 d;lies 0 30 29;"));
         due("X that a later vein makes a state", 2, () -> country(y, "atoms 1;is 3;place;well 0 a;well 0 a;vein 0 1 0 0;"));
         due("is", 3, () -> y.told(5));
     }
@@ -255,12 +259,20 @@ public final class PromisesTest {
         badCountry("place;well 0 A;", 1, 13);
         badCountry("place;well 0 e;", 2, 13);
         badCountry("place;well 0 aba;", 2, 13);
+        badCountry("place;well 0 az;", 2, 13);
+        badCountry("frost 0 365;", 2, 8);
         badCountry("atoms 2;place;well 0 abc;", 2, 21);
         badCountry("place;well 0 aB;", 1, 14);
         badCountry("place;well 0 a;lies 1 1 0;", 2, 20);
         badCountry("place;well 0 a;lies 0 0 0;", 2, 22);
         badCountry("place;well 0 a;lies 0 31 0;", 2, 22);
         badCountry("place;well 0 a;lies 0 1 1;", 2, 24);
+        badCountry("place;well 0 a;lies 1 3 2;", 2, 20);
+        badCountry("place;well 0 a;dry 1 3 4;", 2, 19);
+        badCountry("place;well 0 a;well 0 a;vein 2 0 1 2;", 2, 29);
+        badCountry("place;well 0 a;well 0 a;vein 9 1 0 5;", 2, 29);
+        badCountry("place;well 0 a;well 0 a;vein x 1 0 5;", 1, 29);
+        badCountry("place;well 0 a;well 0 a;vein 0 1 5 365;", 2, 35);
         badCountry("place;well 0 a;dry 0 365 365;", 2, 21);
         badCountry("place;well 0 a;dry 0 0 365;", 2, 23);
         badCountry("place;well 0 a;dry 0 9 8;", 2, 23);
@@ -749,6 +761,31 @@ public final class PromisesTest {
         goal(x, "a and c or b and not c");
         due("three askings", 3, () -> x.enough(0, 0));
         due("a from the last", 231, () -> x.enough(0, 1));
+        BitWells four = land("place;well 0 d;well 0 c;well 0 b;well 0 a;well 0 abcd;dry 4 1 1;");
+        for (int q = 0; q < 4; q++) {
+            question(four, q, "" + (char) ('a' + q));
+        }
+        goal(four, "[if a then b] and [if b then a] and [if c then d] and [if d then c] or a and not b and c and not d");
+        due("four askings", 4, () -> four.enough(1, 0));
+        due("each its own", 43210, () -> four.enough(1, 1));
+        due("the last one first", 4, () -> four.enough(0, 0));
+        due("the last one first", 3214, () -> four.enough(0, 1));
+        BitWells uneven = land("place;well 0 d;well 0 a;well 0 b;well 0 c;");
+        for (int q = 0; q < 4; q++) {
+            question(uneven, q, "" + (char) ('a' + q));
+        }
+        goal(uneven, "a and b or not a and [c and not d or d and not c]");
+        due("one side needs more", 4, () -> uneven.enough(0, 0));
+        due("all four", 4123, () -> uneven.enough(0, 1));
+        BitWells six = land("place;well 0 a;well 0 b;well 0 c;well 0 d;well 0 a;well 0 c;vein 4 5 0 9;vein 2 3 0 9;");
+        for (int q = 0; q < 4; q++) {
+            question(six, q, "" + (char) ('a' + q));
+        }
+        goal(six, "says 0 a and says 1 b and says 2 c and says 3 d and says 4 a and says 5 c");
+        due("six askings", 6, () -> six.enough(9, 0));
+        due("each well", 123413, () -> six.enough(9, 1));
+        due("behind the veins four", 4, () -> six.enough(10, 0));
+        due("of the last ones", 20413, () -> six.enough(10, 1));
         goal(x, "says 3 a and says 0 b");
         due("never so", 0, () -> x.enough(0, 0));
         BitWells full = land("place;" + "well 0 a;".repeat(6));
