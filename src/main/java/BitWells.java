@@ -2024,7 +2024,7 @@ public final class BitWells {
             return days == 0 && asked > 0 ? day + 1 : day + days;
         }
 
-        /** Whether one answer alone tells the goal, which states that are left don't. */
+        /** Whether one asking more tells the goal: any does, if the day alone has settled it. */
         private boolean tellsAll(int well, int day, long left) {
             long goal = almanac.soOn(GOAL, day);
             if (settled(left, goal)) {
