@@ -403,6 +403,15 @@ public final class BoundaryAskingTest {
         Cases.due("by the last", -1, x.atoms(364));
     }
 
+    @Cases.Says({WOULD_DO, WOULD_DO_HOW})
+    static void p31_atoms_NONEAsAVeinIsNoAtom() {
+        // the goal is so where the first told lies, whatever a is
+        String goal = "a and not says 0 a or not a and says 0 a";
+        BitWells x = Cases.aim(Cases.land("atoms 1;place;well 0 a;well 0 a;vein 0 1 5 5;"), goal);
+        Cases.due("by the vein", -1, x.atoms(5));
+        Cases.due("never so", 0, x.atoms(4));
+    }
+
     // ---- plan
 
     private static void plan(BitWells x, int place, int day, int days, int first) {
